@@ -389,7 +389,8 @@ public final class ChunkWords {
             if (!has(number) || k < 0 || k >= sizes[number]) {
                 return BAD;
             }
-            return pool[starts[number] + k] & 255;
+            int place = starts[number] + k;
+            return place < pool.length ? pool[place] & 255 : BAD;
         }
 
         void startNew() {

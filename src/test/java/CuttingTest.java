@@ -16,6 +16,7 @@ public final class CuttingTest {
         bytesWithoutAWord();
         brackets();
         textsWithoutEnd();
+        textsThatAreAlike();
         manyTexts();
         Check.end();
     }
@@ -348,6 +349,26 @@ public final class CuttingTest {
         wrongDue("[=[a]==]", 4, 8, 0);
         wrongDue("[[a\n\n", 4, 5, 0);
         wrongDue("x [==[a]=]", 4, 10, 1);
+    }
+
+    /** Texts that a sum over bytes with factor 31 cannot tell apart, and such as differ at one end alone. */
+    private static void textsThatAreAlike() {
+        String[] all = {"Aa", "BB", "AaAa", "AaBB", "BBAa", "BBBB", "abc", "abd", "xbc", "ab", "abcd", "acb"};
+        ChunkWords x = Check.cutOf(String.join(" ", all) + " " + String.join(" ", all));
+        Check.due("texts() of texts that are alike", x.texts(), all.length);
+        for (int k = 0; k < all.length; k++) {
+            Check.due("text of " + all[k], x.text(k), k);
+            Check.due("text of " + all[k] + " again", x.text(all.length + k), k);
+            Check.due("bytes of " + all[k], Check.textOf(x, k), all[k]);
+        }
+        for (String other : new String[] {"CC", "AaCC", "bbc", "abe", "a", "abcde"}) {
+            ChunkWords y = Check.cutOf(String.join(" ", all));
+            Check.typeAll(y, other);
+            Check.due("find() of " + other, y.find(), ChunkWords.BAD);
+        }
+        ChunkWords y = Check.cutOf("Aa");
+        Check.typeAll(y, "BB");
+        Check.due("find() of BB where Aa is", y.find(), ChunkWords.BAD);
     }
 
     /** As many different texts as 500 calls can type: the rows grow, and each text keeps its number. */

@@ -10,6 +10,7 @@ public final class FaceTest {
     public static void main(String[] args) {
         constants();
         members();
+        classesInside();
         newObject();
         objectsAreApart();
         Check.end();
@@ -39,6 +40,21 @@ public final class FaceTest {
         }
         Check.due("the members that are not private", seen.toString(), want.toString());
         Check.due("the class is public and final", ChunkWords.class.getModifiers(), Modifier.PUBLIC | Modifier.FINAL);
+    }
+
+    private static void classesInside() {
+        TreeSet<String> face = new TreeSet<>();
+        for (Method m : ChunkWords.class.getMethods()) {
+            face.add(m.getName());
+        }
+        for (Class<?> one : ChunkWords.class.getDeclaredClasses()) {
+            int how = one.getModifiers();
+            Check.due(one + " is static", Modifier.isStatic(how) ? 1 : 0, 1);
+            Check.due(one + " is seen outside", Modifier.isPublic(how) || Modifier.isProtected(how) ? 1 : 0, 0);
+            for (Method m : one.getDeclaredMethods()) {
+                Check.due(m + " bears a name of the face", face.contains(m.getName()) ? 1 : 0, 0);
+            }
+        }
     }
 
     private static void add(TreeSet<String> seen, Member member, String told) {

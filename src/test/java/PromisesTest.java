@@ -6,6 +6,8 @@ public final class PromisesTest {
     public static void main(String[] args) {
         type();
         typeFull();
+        wordsFull();
+        textsFull();
         cut();
         place();
         wrongLine();
@@ -60,7 +62,11 @@ public final class PromisesTest {
         Check.due("its last byte but one", x.at(0, 65534), 'a');
         Check.due("its last byte", x.at(0, 65535), 'c');
         Check.due("type after it", x.type(0x63, 1), 1);
-        x = new ChunkWords();
+    }
+
+    /** More calls than are promised, likewise. */
+    private static void wordsFull() {
+        ChunkWords x = new ChunkWords();
         for (int k = 0; k < 8192; k++) {
             Check.due("type " + k, x.type(0x2b2b2b2b2b2b2b2bL, 8), 8 * k + 8);
         }
@@ -69,6 +75,39 @@ public final class PromisesTest {
         Check.due("the words before it", x.words(), 16384);
         Check.due("the last of them", x.begin(16383), 16383);
         Check.due("the one too many", x.kind(16384), BAD);
+    }
+
+    /** More calls than are promised, likewise. */
+    private static void textsFull() {
+        StringBuilder tape = new StringBuilder();
+        for (int k = 0; k < 16384; k++) {
+            tape.append((char) ('a' + k % 26)).append((char) ('A' + k / 26 % 26)).append((char) ('A' + k / 676)).append(' ');
+        }
+        ChunkWords x = Check.typed(tape.toString());
+        Check.due("cut of 16384 names", x.cut(), 16384);
+        Check.due("their texts", x.texts(), 16384);
+        Check.due("place of the end", x.place(), 65536);
+        for (int t = 0; t < 16384; t += 127) {
+            Check.due("text of name " + t, x.text(t), t);
+            Check.due("bytes of name " + t, Check.textOf(x, t), tape.substring(4 * t, 4 * t + 3));
+        }
+        Check.due("the text of the last name", x.text(16383), 16383);
+        wordTooMany("! ", 1);
+        wordTooMany("3x", 6);
+        wordTooMany("'\\q", 6);
+        wordTooMany("[=", 6);
+        wordTooMany("ab", 6);
+        wordTooMany("  ", 0);
+        wordTooMany("--", 0);
+    }
+
+    /** What comes behind 16384 words. */
+    private static void wordTooMany(String last, int why) {
+        ChunkWords x = Check.typed("+ ".repeat(16384) + last);
+        Check.due("cut of 16384 words and " + last, x.cut(), why == 0 ? 16384 : -why);
+        Check.due("place behind 16384 words and " + last, x.place(), why == 0 ? 32768 + last.length() : 32768);
+        Check.due("words of 16384 words and " + last, x.words(), 16384);
+        Check.due("texts of 16384 words and " + last, x.texts(), 0);
     }
 
     private static void cut() {
